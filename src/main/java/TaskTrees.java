@@ -146,7 +146,7 @@ public final class TaskTrees {
 
     public int set(int group, int what, int v)
             throws IndexOutOfBoundsException, IllegalArgumentException {
-        if (what < 0 || what >= SET_LEAST.length || what >= SET_MOST.length) {
+        if (what < 0 || what > 3) {
             throw new IndexOutOfBoundsException("what is 0 to 3");
         }
         if (v < SET_LEAST[what] || v > SET_MOST[what]) {
@@ -958,8 +958,7 @@ public final class TaskTrees {
     /** One row for a mount; it is free while it has no view. */
     private static final class Mount {
         final int id;
-        /** What is in the place of each directory. */
-        final Mount[] over = new Mount[DIRECTORIES];
+        private final Mount[] tops = new Mount[DIRECTORIES];
         View view;
         Mount under;
         int directory;
@@ -979,22 +978,32 @@ public final class TaskTrees {
             this.peer = peer;
         }
 
+        /** What is in the place of a directory, or null. */
+        Mount over(int d) {
+            return d < 0 || d >= DIRECTORIES ? null : tops[d];
+        }
+
+        private void cover(int d, Mount top) {
+            if (d >= 0 && d < DIRECTORIES) {
+                tops[d] = top;
+                carried += top == null ? -1 : 1;
+            }
+        }
+
         void putOn(Mount under, int directory) {
             this.under = under;
             this.directory = directory;
-            under.over[directory] = this;
-            under.carried++;
+            under.cover(directory, this);
         }
 
+        /** The row is free then; begin and putOn set all of it anew. */
         void takeOff() {
             if (under != null) {
-                under.over[directory] = null;
-                under.carried--;
+                under.cover(directory, null);
             }
             under = null;
             directory = 0;
             view = null;
-            peer = 0;
         }
 
         int tell(int what) {
@@ -1015,7 +1024,7 @@ public final class TaskTrees {
 
         /** Whether a path leads anywhere in a view; then this is the place. */
         boolean reach(View view, int path) {
-            if (path < 1 || view.root == null) {
+            if (path < 1) {
                 return false;
             }
             enter(view.root, 0);
@@ -1039,7 +1048,7 @@ public final class TaskTrees {
         private void enter(Mount m, int d) {
             mount = m;
             directory = d;
-            for (Mount top = m.over[d]; top != null; top = top.over[0]) {
+            for (Mount top = m.over(d); top != null; top = top.over(0)) {
                 mount = top;
                 directory = 0;
             }
@@ -1159,7 +1168,7 @@ public final class TaskTrees {
             int peer = newPeer(shared);
             int first = addOne(on, directory, volume, peer);
             for (int i = 0; i < MOUNTS; i++) {
-                if (isPeer(rows[i], on) && rows[i].over[directory] == null) {
+                if (isPeer(rows[i], on) && rows[i].over(directory) == null) {
                     addOne(rows[i], directory, volume, peer);
                 }
             }
@@ -1178,7 +1187,7 @@ public final class TaskTrees {
         private int placesFor(Mount on, int directory) {
             int places = 1;
             for (int i = 0; i < MOUNTS; i++) {
-                if (isPeer(rows[i], on) && rows[i].over[directory] == null) {
+                if (isPeer(rows[i], on) && rows[i].over(directory) == null) {
                     places++;
                 }
             }
@@ -1202,7 +1211,7 @@ public final class TaskTrees {
             removeOne(m);
             int removed = 1;
             for (int i = 0; i < MOUNTS; i++) {
-                Mount same = isPeer(rows[i], under) ? rows[i].over[directory] : null;
+                Mount same = isPeer(rows[i], under) ? rows[i].over(directory) : null;
                 if (same != null && same.volume == m.volume && same.carried == 0) {
                     removeOne(same);
                     removed++;

@@ -12,6 +12,7 @@ public final class GroupsTest {
         chargeEndsWithThePayer();
         chargeFails();
         chargeGoesOutwards();
+        chargeOfOneTooMany();
         releaseGivesBack();
         cacheStays();
         cacheMakesRoom();
@@ -137,6 +138,9 @@ public final class GroupsTest {
         Check.due("13: used", x.told(0, 0), 1000000);
         Check.due("13: nothing when full", x.charge(0, 0), 999985);
         Check.due("13: live", x.count(1), 2);
+        x.release(0, 999985);
+        x.release(1, 15);
+        Check.due("13: the most at once", x.charge(0, 1000000), 1000000);
         Check.argument("13: below 0", () -> x.charge(0, -1));
         Check.argument("13: too many", () -> x.charge(0, 1000001));
         Check.argument("13: ahead of NONE", () -> x.charge(9, -1));
@@ -280,6 +284,43 @@ public final class GroupsTest {
         Check.due("13: outside lives", x.task(4, 0), 0);
     }
 
+    /** The least that can lack, and the outermost group's own cache. */
+    private static void chargeOfOneTooMany() {
+        TaskTrees x = new TaskTrees();
+        x.group(0);
+        x.fork(0, false, false);
+        x.fork(0, false, false);
+        x.move(1, 1);
+        x.cache(0, 3);
+        x.cache(1, 1);
+        x.charge(1, 999996);
+        Check.due("13: just full", x.told(0, 0), 1000000);
+        Check.due("13: one lacks", x.charge(2, 1), 1);
+        Check.due("13: group 0's cache", x.told(0, 2), 2);
+        x.charge(2, 2);
+        Check.due("13: a cache of 1", x.charge(2, 1), 4);
+        Check.due("13: it went", x.told(1, 2), 0);
+        Check.due("13: no victim", x.count(8), 0);
+        Check.due("13: a victim for one page", x.charge(2, 1), 5);
+        Check.due("13: it", x.task(1, 0), 2);
+
+        TaskTrees y = new TaskTrees();
+        y.set(0, 0, 100);
+        for (int t = 1; t <= 3; t++) {
+            y.fork(0, false, false);
+            y.charge(t, 30);
+        }
+        Check.due("13: one of three", y.charge(0, 40), 40);
+        Check.due("13: the highest", y.task(3, 0), 2);
+        Check.due("13: not the lowest", y.task(1, 0), 0);
+        Check.due("13: only one", y.count(8), 1);
+        Check.due("13: 100 a point", y.badness(1, 1), 1);
+        y.release(0, 40);
+        y.charge(2, 40);
+        Check.due("13: again one", y.charge(0, 10), 10);
+        Check.due("13: the bad one", y.task(1, 0), 2);
+    }
+
     private static void releaseGivesBack() {
         TaskTrees x = new TaskTrees();
         x.group(0);
@@ -309,6 +350,9 @@ public final class GroupsTest {
         Check.due("15: cache", x.cache(1, 30), 30);
         Check.due("15: more", x.cache(1, 12), 42);
         Check.due("15: nothing", x.cache(1, 0), 42);
+        Check.due("15: the most at once", x.cache(1, 1000000), 1000000);
+        x.charge(1, 999958);
+        Check.due("15: taken back", x.release(1, 999958), 0);
         Check.due("15: not the task's", x.task(1, 5), 0);
         Check.due("15: used around", x.told(0, 0), 42);
         Check.due("15: no cache of the one around", x.told(0, 2), 0);

@@ -117,6 +117,7 @@ public final class MountsTest {
         x.fork(0, false, true);
         Check.due("22: 78 mounts", x.count(6), 78);
         Check.due("22: no room for three", x.mount(0, 2, 1, true), TaskTrees.FULL);
+        Check.due("22: nor from another view", x.mount(2, 2, 1, true), TaskTrees.FULL);
         Check.due("22: nothing is made", x.count(6), 78);
         Check.due("22: nowhere", x.at(2, 2), 76001);
         x.unmount(1, 1);

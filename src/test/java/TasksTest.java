@@ -152,6 +152,15 @@ public final class TasksTest {
         w.unmount(0, path);
         Check.due("2: just room", w.fork(0, true, true), 1);
         Check.due("2: all 80", w.count(6), 80);
+
+        TaskTrees v = new TaskTrees();
+        v.fork(0, false, true);
+        for (int i = 0; i < 39; i++) {
+            v.mount(0, path, 1, false);
+        }
+        Check.due("2: 40 mounts in a view, 41 in all", v.count(6), 41);
+        Check.due("2: one is too many", v.fork(0, false, true), TaskTrees.FULL);
+        Check.due("2: another view's", v.fork(1, false, true), 2);
     }
 
     private static void forkRefusedChangesNothing() {
@@ -167,6 +176,13 @@ public final class TasksTest {
         x.exit(9);
         x.fork(0, false, false);
         Check.due("2: the number that is free", x.number(40, 0), 10);
+        x.exit(40);
+        x.fork(0, false, false);
+        Check.due("2: the one given last, all others are held", x.number(41, 0), 10);
+        x.exit(39);
+        Check.due("2: number 40 is free again", x.find(0, 40), TaskTrees.NONE);
+        x.fork(0, false, false);
+        Check.due("2: number 40", x.number(42, 0), 40);
     }
 
     private static void exitOfOne() {
