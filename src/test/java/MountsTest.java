@@ -145,6 +145,13 @@ public final class MountsTest {
         Check.due("23: it is no more", x.mounted(1, 0), TaskTrees.NONE);
         Check.due("23: mounts", x.count(6), 1);
         Check.due("23: what was below", x.at(0, 2), 1);
+        x.mount(0, 2, 1, false);
+        x.mount(0, 4, 2, false);
+        x.mount(0, 5, 2, false);
+        x.unmount(0, 4);
+        Check.due("23: still busy", x.unmount(0, 2), TaskTrees.BUSY);
+        x.unmount(0, 5);
+        Check.due("23: busy no more", x.unmount(0, 2), 1);
         x.mount(0, 1, 1, false);
         x.mount(0, 1, 2, false);
         Check.due("23: the one on top", x.unmount(0, 1), 1);
@@ -252,6 +259,10 @@ public final class MountsTest {
         Check.index("26: ahead of NONE", () -> x.mounted(99, 5));
         x.unmount(1, 6);
         Check.due("26: no more", x.mounted(2, 3), TaskTrees.NONE);
+        x.fork(1, false, true);
+        Check.due("26: a root in its row", x.mounted(2, 2), 0);
+        Check.due("26: of volume 0", x.mounted(2, 3), 0);
+        Check.due("26: private", x.mounted(2, 4), 0);
     }
 
     private static void newViewCopies() {
