@@ -919,10 +919,13 @@ public final class TaskTrees {
             }
         }
 
+        /** Each step goes into a group within the last one, so the walk ends. */
         private Task choose() {
             Task chosen = null;
-            for (Group g = groups.madeAt(0); g != null; g = g.leadsToGroup() ? g.firstGroup : null) {
+            Group g = groups.madeAt(0);
+            while (g != null) {
                 chosen = g.firstTask;
+                g = g.leadsToGroup() ? g.firstGroup : null;
             }
             return chosen;
         }
