@@ -5,8 +5,14 @@ final class Check {
     }
 
     private static int wrong = 0;
+    private static String sentence = "";
 
     private Check() {
+    }
+
+    /** The document's sentence that the checks from here on are about. */
+    static void sentence(String quoted) {
+        sentence = quoted;
     }
 
     static void due(String call, long got, long want) {
@@ -37,7 +43,7 @@ final class Check {
     static void fault(String text) {
         wrong++;
         if (wrong <= 50) {
-            System.out.println(text);
+            System.out.println(sentence.isEmpty() ? text : "\"" + sentence + "\": " + text);
         }
     }
 
