@@ -17,6 +17,7 @@ public final class ChargeEdgesTest {
         mostCacheGoes();
         asMuchAsLacks();
         mostCacheByThen();
+        cachesOfAllGroups();
         cacheAheadOfVictims();
         victimByPagesAndBadness();
         victimOfTheSame();
@@ -26,6 +27,7 @@ public final class ChargeEdgesTest {
         victimsWithin();
         victimsTillThereIsRoom();
         victimsTillNoneIsLeft();
+        victimsOfAllNumbers();
         victimThatIsAnInit();
         outwards();
         outwardsNoFurther();
@@ -240,6 +242,35 @@ public final class ChargeEdgesTest {
         Check.due("2 has the most by then", x.told(2, 2), 5);
     }
 
+    /** 20 groups with 2 pages of cache each, all used up to the max; so many more are charged. */
+    private static void takesCaches(int lacks, int left) {
+        TaskTrees x = new TaskTrees();
+        x.fork(0, false, false);
+        x.badness(1, -10);
+        x.cache(0, 2);
+        for (int g = 1; g <= 19; g++) {
+            x.group(0);
+            x.move(1, g);
+            x.cache(1, 2);
+        }
+        x.set(0, 0, 40);
+        Check.due("lacking " + lacks, x.charge(0, lacks), lacks <= 40 ? lacks : LIMIT);
+        for (int g = 0; g <= 18; g++) {
+            Check.due("lacking " + lacks + ", left in " + g, x.told(g, 2), 0);
+        }
+        Check.due("lacking " + lacks + ", left in the last", x.told(19, 2), left);
+        Check.due("lacking " + lacks + ", used", x.told(0, 0), lacks <= 40 ? 40 : 0);
+    }
+
+    private static void cachesOfAllGroups() {
+        Check.sentence("as much of it as lacks, or all (then likewise that one's that has the "
+                + "most by then)");
+        takesCaches(38, 2);
+        takesCaches(39, 1);
+        takesCaches(40, 0);
+        takesCaches(41, 0);
+    }
+
     private static void cacheAheadOfVictims() {
         Check.sentence("then VICTIMS are killed");
         TaskTrees x = payers(50, 40);
@@ -419,6 +450,22 @@ public final class ChargeEdgesTest {
         Check.due("the cache is gone", y.told(1, 2), 0);
         Check.due("not charged", y.task(3, 5), 0);
         Check.due("nothing is used", y.told(1, 0), 0);
+    }
+
+    private static void victimsOfAllNumbers() {
+        Check.sentence("again, till there is room, or none is left");
+        for (int lacks = 38; lacks <= 40; lacks++) {
+            TaskTrees x = new TaskTrees();
+            for (int t = 1; t <= 39; t++) {
+                x.fork(0, false, false);
+                x.charge(t, 1);
+            }
+            x.set(0, 0, 39);
+            Check.due("lacking " + lacks, x.charge(0, lacks), lacks <= 39 ? lacks : LIMIT);
+            Check.due("victims for " + lacks, x.count(8), Math.min(lacks, 39));
+            Check.due("the least one", x.task(1, 0), lacks < 39 ? 0 : 2);
+            Check.due("all numbers are free", x.find(0, 40), NONE);
+        }
     }
 
     private static void victimThatIsAnInit() {

@@ -212,6 +212,14 @@ public final class MountEdgesTest {
         Check.due("its directory", x.mounted(2, 2), 0);
         Check.due("on it", x.mounted(3, 1), 2);
         Check.due("what is on it has a directory 0, too", x.mounted(3, 2), 0);
+        TaskTrees y = new TaskTrees();
+        y.mount(0, 15, 9, true);
+        y.unmount(0, 15);
+        y.fork(0, false, true);
+        int[] root = {1, -1, 0, 0, 0};
+        for (int what = 0; what < 5; what++) {
+            Check.due("in the row of one that was, " + what, y.mounted(1, what), root[what]);
+        }
     }
 
     private static void pathsOfOneOrMore() {

@@ -4,6 +4,8 @@
  */
 public final class RandomRunsTest {
     private static final int CALLS = 512;
+    /** The kind of runs in which tasks come and go, up to all 150. */
+    private static final int CHURN = 6;
     private static final int INDEX = -1001, ARGUMENT = -1002;
 
     private final TaskTrees x = new TaskTrees();
@@ -12,12 +14,12 @@ public final class RandomRunsTest {
     private long seed;
 
     private RandomRunsTest(int run) {
-        kind = run % 6;
+        kind = run % 7;
         seed = run * 7919L + 17;
     }
 
     public static void main(String[] args) {
-        int runs = args.length > 1 ? Integer.parseInt(args[1]) : 600;
+        int runs = args.length > 1 ? Integer.parseInt(args[1]) : 700;
         for (int run = 0; run < runs; run++) {
             new RandomRunsTest(run).play(run);
         }
@@ -96,8 +98,9 @@ public final class RandomRunsTest {
             {0, 0, 0, 0, 1, 2, 2, 3, 4, 5, 6, 7},
             {0, 8, 9, 9, 10, 11, 11, 11, 12, 13, 13, 14, 14, 15, 1},
             {0, 8, 14, 9, 16, 16, 16, 17, 17, 18, 19, 1},
-            {0, 20, 20, 20, 21, 21, 22, 23, 24}};
-        int part = kind < 4 && below(8) != 0 ? kind : below(4);
+            {0, 20, 20, 20, 21, 21, 22, 23, 24},
+            {0, 0, 0, 1, 1, 2, 3}};
+        int part = kind == CHURN ? 4 : kind < 4 && below(8) != 0 ? kind : below(4);
         int op = parts[part][below(parts[part].length)];
         int yes = below(2);
         int rarely = below(kind == 5 ? 2 : 6) == 0 ? 1 : 0;
@@ -120,9 +123,13 @@ public final class RandomRunsTest {
             case 16: return new int[] {op, below(20) == 0 ? below(204) - 2 : below(9)};
             case 17: return new int[] {op, anyTask(), yes};
             case 19: return new int[] {op, yes, yes == 1 ? anyGroup() : anyTask()};
-            case 20: return new int[] {op, anyTask(), path(), below(11) == 0 ? below(13) - 1 : below(3), yes};
+            case 20:
+                int volume = below(11) == 0 ? below(13) - 1 : below(3);
+                return new int[] {op, anyTask(), path(), volume, yes};
             case 21: case 22: return new int[] {op, anyTask(), path()};
-            case 23: return new int[] {op, below(20) == 0 ? below(14) - 2 : below(x.count(5)), below(3) == 0 ? 0 : 1};
+            case 23:
+                int view = below(20) == 0 ? below(14) - 2 : below(x.count(5));
+                return new int[] {op, view, below(3) == 0 ? 0 : 1};
             default: return new int[] {op, below(83) - 1, below(7) - 1};
         }
     }
