@@ -80,7 +80,10 @@ public final class TaskTrees {
 
     public int kill(int task, int number) {
         Task sender = tasks.living(task);
-        Task target = sender == null ? null : sender.space.holder(number);
+        if (sender == null) {
+            return NONE;
+        }
+        Task target = sender.space.holder(number);
         if (target == null) {
             return NONE;
         }

@@ -6,6 +6,11 @@ public final class RandomRunsTest {
     private static final int CALLS = 512;
     /** The kind of runs in which tasks come and go, up to all 150. */
     private static final int CHURN = 6;
+    /** The kind of runs in which any argument may be any number. */
+    private static final int WILD = 7;
+    private static final int KINDS = 8;
+    private static final int[] LIMITS = {0, 1, 7, 10, 14, 19, 20, 40, 80, 100, 149, 150, 200, 1000,
+        1000000, Integer.MAX_VALUE, Integer.MIN_VALUE};
     private static final int INDEX = -1001, ARGUMENT = -1002;
 
     private final TaskTrees x = new TaskTrees();
@@ -14,12 +19,12 @@ public final class RandomRunsTest {
     private long seed;
 
     private RandomRunsTest(int run) {
-        kind = run % 7;
+        kind = run % KINDS;
         seed = run * 7919L + 17;
     }
 
     public static void main(String[] args) {
-        int runs = args.length > 1 ? Integer.parseInt(args[1]) : 700;
+        int runs = args.length > 1 ? Integer.parseInt(args[1]) : 800;
         for (int run = 0; run < runs; run++) {
             new RandomRunsTest(run).play(run);
         }
@@ -28,7 +33,7 @@ public final class RandomRunsTest {
 
     private void play(int run) {
         for (int i = 0; i < CALLS; i++) {
-            int[] call = draw();
+            int[] call = kind == WILD ? wild(draw()) : draw();
             long got = answer(call, true);
             long want = answer(call, false);
             if (got != want) {
@@ -132,6 +137,17 @@ public final class RandomRunsTest {
                 return new int[] {op, view, below(3) == 0 ? 0 : 1};
             default: return new int[] {op, below(83) - 1, below(7) - 1};
         }
+    }
+
+    /** Now and then an argument at one of the limits, beside it, below 0, or far from all. */
+    private int[] wild(int[] call) {
+        for (int i = 1; i < call.length; i++) {
+            if (below(8) == 0) {
+                int n = LIMITS[below(LIMITS.length)] + below(3) - 1;
+                call[i] = below(4) == 0 ? -n : below(8) == 0 ? (int) (seed >>> 31) : n;
+            }
+        }
+        return call;
     }
 
     private long answer(int[] c, boolean ofClass) {
