@@ -30,6 +30,7 @@ public final class ClockEdgesTest {
         newTaskAmongNone();
         newGroupComes();
         wakes();
+        fallsAsleep();
         wakesAmongNone();
         moved();
         movedAmongNone();
@@ -500,6 +501,22 @@ public final class ClockEdgesTest {
         Check.due("the same for the next", x.time(false, 1), 70000);
         x.sleep(1, false);
         Check.due("awake already", x.time(false, 1), 70000);
+    }
+
+    /** One that falls asleep does not come: its time is what it was, and counts when it wakes. */
+    private static void fallsAsleep() {
+        Check.sentence("a task that wakes");
+        TaskTrees x = new TaskTrees();
+        x.fork(0, false, false);
+        x.ticks(1);
+        Check.due("0 is ahead", x.time(false, 0), 10000);
+        x.sleep(1, true);
+        Check.due("the time that it had", x.time(false, 1), 0);
+        x.sleep(1, true);
+        Check.due("asleep already", x.time(false, 1), 0);
+        x.sleep(0, true);
+        x.sleep(1, false);
+        Check.due("no other is ready, its own stays", x.time(false, 1), 0);
     }
 
     private static void wakesAmongNone() {

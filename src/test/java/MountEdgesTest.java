@@ -36,6 +36,7 @@ public final class MountEdgesTest {
         unmountOnPrivate();
         unmountAnswers();
         newViewCopies();
+        newViewOfACopy();
         newViewByNumbers();
         newViewIsFull();
         atAnswers();
@@ -628,6 +629,23 @@ public final class MountEdgesTest {
         y.mount(0, 2, 1, false);
         y.fork(1, false, true);
         Check.due("of its own view, not of others", y.count(6), 4);
+    }
+
+    /** The copy of a copy: what the first view's mounts were copied to does not matter then. */
+    private static void newViewOfACopy() {
+        Check.sentence("A NEW VIEW has copies of all mounts of another one");
+        TaskTrees x = new TaskTrees();
+        x.mount(0, 2, 1, false);
+        x.fork(0, false, true);
+        x.unmount(1, 2);
+        x.fork(1, false, true);
+        Check.due("its root has the free number", x.mounted(3, 0), 2);
+        Check.due("it is in none", x.mounted(3, 1), -1);
+        Check.due("nothing is in the copy", x.at(1, 2), 2001);
+        Check.due("nor in the copy of it", x.at(2, 2), 3001);
+        Check.due("the first view has its mount", x.at(0, 2), 1020);
+        Check.due("a root is not unmounted", x.unmount(2, 1), NONE);
+        Check.due("four in all", x.count(6), 4);
     }
 
     private static void newViewByNumbers() {

@@ -29,6 +29,7 @@ public final class TaskEdgesTest {
         initAlone();
         nobodyIsKilledTwice();
         zombiesGoWithTheInit();
+        zombiesGoWithAnInnerInit();
         deadSpaces();
         zombiesOfTaskZero();
         goneTasks();
@@ -477,6 +478,26 @@ public final class TaskEdgesTest {
         Check.due("the one outside stays", x.task(6, 0), 1);
         Check.due("numbers", x.number(3, 0) + x.number(5, 0), 0);
         Check.due("zombies then", x.count(2), 2);
+    }
+
+    /** The INIT around would be their heir, and is not task 0: they go all the same. */
+    private static void zombiesGoWithAnInnerInit() {
+        Check.sentence("so are zombies there");
+        TaskTrees x = withSpace(0);
+        x.fork(1, true, false);
+        x.fork(2, false, false);
+        x.fork(2, true, false);
+        x.fork(2, false, false);
+        x.exit(3);
+        x.exit(4);
+        Check.due("two zombies of the inner INIT", x.count(2), 2);
+        Check.due("it ends with one more", x.exit(2), 2);
+        Check.due("a task of its space", x.task(3, 0), 2);
+        Check.due("an INIT within", x.task(4, 0), 2);
+        Check.due("they have no heir", x.task(3, 1) + x.task(4, 1), -2);
+        Check.due("itself alone is a zombie", x.count(2), 1);
+        Check.due("the INIT around reaps it", x.reap(1), 2);
+        Check.due("and no other", x.reap(1), 0);
     }
 
     private static void deadSpaces() {
